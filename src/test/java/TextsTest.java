@@ -72,6 +72,10 @@ public final class TextsTest {
         Check.same("what is refused changes nothing", x.count(2), 480);
         x.end(470);
         Check.same("481 of 470 and 11", x.feed(-1, -1, 0xffffff, 0, 0), NONE);
+        Check.same("481 of 470 and 11", x.feed(0, -1, -1, 0xffffff, 0), NONE);
+        Check.same("481 of 470 and 11", x.feed(0, 0, -1, -1, 0xffffff), NONE);
+        Check.same("481 of 470 and 11", x.feed(0xffffff, 0, 0, -1, -1), NONE);
+        Check.same("481 of 470 and 11", x.feed(-1, 0xffffff, 0, 0, -1), NONE);
         Check.same("still 470", x.count(2), 470);
         Check.same("480 of 470 and 10", x.feed(-1, -1, 0xffff, 0, 0), 480);
     }

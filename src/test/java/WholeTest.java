@@ -17,6 +17,8 @@ public final class WholeTest {
         promise35();
         promise35Most();
         promise38();
+        longestLists();
+        mostSlabs();
         Check.close("WholeTest");
     }
 
@@ -248,6 +250,63 @@ public final class WholeTest {
         answers("no point", x.points(0, 2), 0);
         answers("regions with a point", x.all(1), 3);
         answers("couples are all the same", x.all(2), 2);
+        x = Check.mapOf("e0,63,1,63,5");
+        answers("a region of one point", x.all(1), 1 | 1 << 5);
+        answers("the most of all, though one", x.all(3), 5);
+    }
+
+    /** All 24 edges in one list. */
+    private static void longestLists() {
+        SlabMap x = empty();
+        for (int y = 0; y < 24; y++) {
+            x.add(0, 2 * y, 63, 2 * y, y % 9 + 1);
+        }
+        answers("one slab", x.rule(1), 1);
+        answers("its list", x.slab(0, 2), 24);
+        answers("the highest", x.list(0, 23), 23);
+        answers("no higher one", x.list(0, 24), NONE);
+        answers("on top of all", x.at(0, 62, 63, 3), 24);
+        answers("on top of the highest", x.at(0, 0, 46, 0), 23);
+        answers("the last above", x.above(5, 0, 22), 23);
+        answers("no more above", x.above(5, 0, 23), NONE);
+        answers("a way through all but the ends of it", x.way(7, 0, 7, 46, NONE), 22);
+        answers("two edges of two rows each, one of the rest", x.points(0, 6), 63 * (2 + 2 + 18));
+        answers("the column in no slab", x.points(0, 0), 64);
+        answers("ends", x.ends(NONE), 24);
+        x.tell(23, 9);
+        answers("the rest is another's", x.like(1, 0), 4096 - 63 * 18);
+        answers("the list is as it was", x.like(1, 1), 1);
+        x.drop(0);
+        answers("two rows fewer", x.like(1, 0), 4096 - 63 * 2);
+        answers("ends that there were", x.ends(1), 23);
+    }
+
+    /** Each X at which an edge ends is another: 48 of them, in lists of 1 up to 24 and down again. */
+    private static void mostSlabs() {
+        SlabMap x = empty();
+        for (int i = 0; i < 24; i++) {
+            x.add(i, i, 47 - i, i, i % 10);
+        }
+        answers("slabs", x.rule(1), 47);
+        answers("the last", x.slab(46, 1), 47);
+        answers("no more", x.slab(47, 0), NONE);
+        for (int slab = 0; slab < 47; slab++) {
+            answers("its list", x.slab(slab, 2), slab < 24 ? slab + 1 : 47 - slab);
+            answers("the highest of it", x.list(slab, x.slab(slab, 2) - 1), x.slab(slab, 2) - 1);
+        }
+        answers("edges of all lists", x.all(0), 576);
+        answers("the longest list", x.stairs(0), 23);
+        answers("all as wide", x.stairs(1), 0);
+        answers("from each to each above", x.ends(NONE), 300);
+        answers("ends", x.all(5), 48);
+        answers("in how many lists", x.edge(3, 5), 41);
+        answers("where it begins", x.edge(3, 6), 3);
+        answers("told again", x.tell(5, 6), 5);
+        answers("all ends that there were", x.ends(1), 300);
+        answers("all lists that there were", x.like(1, 1), 47);
+        answers("dropped", x.drop(0), 0);
+        answers("slabs", x.rule(1), 45);
+        answers("ends that there were", x.ends(1), 276);
     }
 
     private static void promise38() {
