@@ -127,7 +127,8 @@ public final class WrongCallsTest {
             seen.append(x.log(i, 0)).append(x.log(i, 1)).append(x.log(i, 2)).append(' ');
         }
         for (int ago = 0; ago <= 40; ago++) {
-            seen.append(x.points(ago, 1)).append(' ').append(x.like(ago, 0)).append(' ').append(x.ends(ago)).append(' ');
+            seen.append(x.points(ago, 1)).append(' ').append(x.like(ago, 0)).append(' ');
+            seen.append(x.ends(ago)).append(' ');
         }
         for (int i = 0; i < 12; i++) {
             seen.append(x.step(0, i, 0)).append(x.step(0, i, 1)).append(x.name(i, -1)).append(x.name(i, 0));
