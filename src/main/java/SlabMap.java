@@ -235,7 +235,8 @@ public final class SlabMap {
     }
 
     public int way(int x, int y, int toX, int toY, int i) {
-        if (!isPoint(x, y) || !isPoint(toX, toY)) {
+        // without a map there are no points, so no way without an edge either
+        if (!hasMap || !isPoint(x, y) || !isPoint(toX, toY)) {
             return NONE;
         }
         int met = 0;

@@ -255,6 +255,18 @@ public final class MapTest {
             answers("to x " + no, x.way(0, 0, no, 0, NONE), NONE);
             answers("to y " + no, x.way(0, 0, 0, no, NONE), NONE);
         }
+        for (int i = -2; i < 2; i++) {
+            answers("no map, i " + i, new SlabMap().way(0, 0, 0, 0, i), NONE);
+            answers("no map, i " + i, new SlabMap().way(5, 0, 5, 63, i), NONE);
+        }
+        SlabMap none = new SlabMap();
+        none.text(0);
+        answers("a fault makes no map", none.way(0, 0, 9, 9, NONE), NONE);
+        answers("a map without an edge", Check.mapOf("e1,1,1,1,1").way(0, 0, 9, 9, NONE), 0);
+        answers("a map without an edge", Check.mapOf("e1,1,1,1,1").way(0, 0, 9, 9, 0), NONE);
+        x.drop(0);
+        x.drop(1);
+        answers("all edges gone", x.way(0, 20, 63, 20, NONE), 0);
     }
 
     private static void promise13() {

@@ -475,7 +475,7 @@ final class Model {
     }
 
     int way(int x, int y, int toX, int toY, int i) {
-        if (!isPoint(x, y) || !isPoint(toX, toY)) {
+        if (!hasMap || !isPoint(x, y) || !isPoint(toX, toY)) {
             return NONE;
         }
         List<Integer> met = new ArrayList<>();

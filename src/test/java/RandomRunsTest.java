@@ -345,7 +345,6 @@ public final class RandomRunsTest {
                 int toX = random.nextInt(5) == 0 ? x : xy();
                 int toY = xy();
                 int w = random.nextBoolean() ? -1 : below(5);
-                // without a map the document tells no refusal, so both answer as with no edge
                 same(String.format("way(%d, %d, %d, %d, %d)", x, y, toX, toY, w), map.way(x, y, toX, toY, w),
                         model.way(x, y, toX, toY, w));
                 break;

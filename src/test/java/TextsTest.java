@@ -38,6 +38,7 @@ public final class TextsTest {
         Check.same("new: near", x.near(0, 0), NONE);
         Check.same("new: points", x.points(0, 0), NONE);
         Check.same("new: at", x.at(0, 0, 0, 0), NONE);
+        Check.same("new: way", x.way(0, 0, 0, 0, NONE), NONE);
         Check.same("new: beside", x.beside(0), NONE);
         Check.same("new: blocks", x.blocks(0, 0, 1, 1), NONE);
         Check.same("new: would", x.would(0, 0, 1, 1, 1, -1), NONE);
