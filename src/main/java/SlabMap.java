@@ -235,7 +235,7 @@ public final class SlabMap {
     }
 
     public int way(int x, int y, int toX, int toY, int i) {
-        // without a map there are no points, so no way without an edge either
+        // without a map there are no points, though no edge would be met just as well
         if (!hasMap || !isPoint(x, y) || !isPoint(toX, toY)) {
             return NONE;
         }
