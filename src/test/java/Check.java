@@ -1,10 +1,18 @@
+import java.io.IOException;
 import java.nio.charset.StandardCharsets;
+import java.nio.file.Files;
+import java.nio.file.Path;
+import java.util.ArrayList;
+import java.util.List;
 import java.util.NoSuchElementException;
 
-/** Counts answers that are not the due ones, and feeds texts to a tape. */
+/** Counts answers that are not the due ones, by the sentences that ask for them, and feeds texts to a tape. */
 final class Check {
     private static int wrong = 0;
     private static int made = 0;
+    private static String sentence = "";
+    private static int madeBefore = 0;
+    private static final List<String> SENTENCES = new ArrayList<>();
 
     private Check() {
     }
@@ -15,7 +23,38 @@ final class Check {
             wrong++;
             if (wrong <= 50) {
                 System.out.println(what + ": answered " + got + ", due is " + due);
+                System.out.print(sentence.isEmpty() ? "" : "    as the document says: " + sentence + "\n");
             }
+        }
+    }
+
+    /** From here on the answers are those that these words of the document ask for. */
+    static void of(String words) {
+        endSentence();
+        sentence = words;
+        madeBefore = made;
+        SENTENCES.add(words);
+    }
+
+    private static void endSentence() {
+        if (!sentence.isEmpty() && made == madeBefore) {
+            wrong++;
+            System.out.println("no answer is asked for: " + sentence);
+        }
+    }
+
+    /** A hint, not a fault: the document may have been told anew since the tests were written. */
+    private static void tellUnquoted() {
+        Path document = Path.of("../shared/DOC.md");
+        try {
+            String text = Files.exists(document) ? Files.readString(document).replaceAll("\\s+", " ") : "";
+            for (String words : SENTENCES) {
+                if (!text.isEmpty() && !text.contains(words)) {
+                    System.out.println("the document no longer says: " + words);
+                }
+            }
+        } catch (IOException e) {
+            System.out.println("the document can't be read");
         }
     }
 
@@ -37,12 +76,51 @@ final class Check {
         yes("edge(" + edge + ", " + what + ") throws", thrown);
     }
 
+    /** All that acts, images and texts change, as the calls tell it; of the status nothing. */
+    static String seen(SlabMap map) {
+        StringBuilder seen = new StringBuilder();
+        for (int what = 0; what < 5; what++) {
+            seen.append(map.count(what)).append(' ').append(map.rule(what)).append(' ');
+        }
+        for (int edge = 0; edge < 24; edge++) {
+            seen.append('\n').append(edgeOf(map, edge));
+        }
+        for (int slab = 0; slab < map.rule(1); slab++) {
+            seen.append("\nlist");
+            for (int k = 0; k < map.slab(slab, 2); k++) {
+                seen.append(' ').append(map.list(slab, k));
+            }
+        }
+        for (int i = 0; i < map.count(3); i++) {
+            seen.append("\nlog ").append(map.log(i, 0)).append(' ').append(map.log(i, 1)).append(' ')
+                    .append(map.log(i, 2));
+        }
+        seen.append('\n').append(map.points(1, 0)).append(' ').append(map.points(map.count(4), 0));
+        return seen.append(' ').append(map.fault(0)).append(' ').append(map.fault(1)).toString();
+    }
+
+    /** X, Y, X, Y, REGION; none: nothing. */
+    static String edgeOf(SlabMap map, int edge) {
+        StringBuilder told = new StringBuilder();
+        try {
+            for (int what = 0; what < 5; what++) {
+                told.append(what == 0 ? "" : ",").append(map.edge(edge, what));
+            }
+        } catch (NoSuchElementException e) {
+            told.setLength(0);
+        }
+        return told.toString();
+    }
+
     static boolean sound() {
         return wrong == 0;
     }
 
     static void close(String name) {
-        System.out.println(name + ": " + (made - wrong) + " answers as due, " + wrong + " not");
+        endSentence();
+        tellUnquoted();
+        String of = SENTENCES.isEmpty() ? "" : ", for " + SENTENCES.size() + " sentences";
+        System.out.println(name + ": " + (made - wrong) + " answers as due, " + wrong + " not" + of);
         if (wrong > 0) {
             System.exit(1);
         }
