@@ -130,6 +130,13 @@ public final class ActBoundsTest {
     }
 
     private static void gone() {
+        Check.of("GONE: an EDGE; an EDGE's REGION is told");
+        SlabMap y = Check.mapOf("e0,0,9,0,1;e0,5,9,5,2");
+        answers("gone", y.drop(1), 2);
+        edge(y, 0, "0,0,9,0,1");
+        edge(y, 1, "");
+        answers("told", y.tell(0, 9), 1);
+        edge(y, 0, "0,0,9,0,9");
         Check.of("GONE: its REGION. NONE: no such EDGE (STATUS 0).");
         SlabMap x = full();
         x.tell(0, 0);
@@ -536,6 +543,7 @@ public final class ActBoundsTest {
             answers("at(" + no + ", 0, 0, 1)", x.at(no, 0, 0, 1), NONE);
             answers("points(" + no + ", 0)", x.points(no, 0), NONE);
             answers("like(" + no + ", 0)", x.like(no, 0), NONE);
+            answers("like(" + no + ", 1)", x.like(no, 1), NONE);
             answers("ends(" + no + ")", x.ends(no), no == NONE ? 1 : NONE);
         }
     }
@@ -614,7 +622,7 @@ public final class ActBoundsTest {
         SlabMap x = Check.mapOf("e0,0,10,0,1");
         Check.script(x, "d1;d0");
         Check.script(x, "a10,0,20,0,2;r1,2;d0");
-        Check.script(x, "r0,5;m1,1;d0;a0,63,63,63,9");
+        Check.script(x, "r1,5;m1,2;d0;a0,63,63,63,9");
         answers("none", x.perform(0), 0);
         answers("none is done", x.count(4) + x.count(3), 0);
         answers("the first", x.perform(1), 1);
@@ -622,10 +630,12 @@ public final class ActBoundsTest {
         answers("it is across itself now", x.perform(1), 0);
         answers("all four", x.perform(2), 4);
         answers("five acts", x.count(4), 5);
+        edge(x, 0, "0,63,63,63,9");
+        edge(x, 1, "11,2,21,2,5");
         log(x, 0, 0, 0, 3);
         log(x, 1, 1, 0, 1);
         log(x, 2, 3, 1, 2);
-        log(x, 3, 2, 0, 2);
+        log(x, 3, 2, 1, 2);
         log(x, 4, 0, 1, 2);
         status(x, 0, 0, 0, 0);
         answers("one by one", x.undo(), 4);
@@ -723,7 +733,7 @@ public final class ActBoundsTest {
 
     private static void waysDraws() {
         Check.of("x, at first the seed, becomes x times 6364136223846793005 and 1442695040888963407"
-                + " (64 bits, going round)");
+                + " (64 bits, going round); a draw of j: (x shifted right by 33, without sign) modulo j.");
         long[] seeds = {0, 1, -1, 2, Long.MAX_VALUE, Long.MIN_VALUE, 1L << 33, -1L << 33, 1L << 62, 12345678901L};
         for (long seed : seeds) {
             SlabMap x = full();
@@ -796,7 +806,9 @@ public final class ActBoundsTest {
         SlabMap x = empty();
         answers("no slab", x.image(), 0);
         x.add(0, 0, 9, 0, 1);
+        answers("a slab", x.slab(0, 1), 9);
         answers("back to none", x.back(), 0);
+        answers("no slab any more", x.slab(0, 1), NONE);
         answers("no edge", x.count(0), 0);
         x.add(0, 0, 9, 0, 1);
         answers("one slab", x.image(), 1);
@@ -846,10 +858,12 @@ public final class ActBoundsTest {
         x.image();
         x.drop(0);
         x.move(1, 1);
+        answers("the only slab", x.slab(0, 0), 10);
         answers("back", x.back(), 2);
         edge(x, 0, "0,0,9,0,5");
         edge(x, 1, "9,0,20,0,6");
         answers("its lists", x.list(0, 0), 0);
+        answers("its slabs", x.slab(0, 0), 0);
         answers("none can be undone", x.count(4), 0);
         answers("none can be undone", x.undo(), NONE);
         answers("none was ago", x.at(1, 0, 0, 1), NONE);

@@ -235,6 +235,21 @@ public final class MapBoundsTest {
         for (int k = 0; k < 24; k++) {
             answers("all in one list", x.list(0, k), k);
         }
+        x = empty();
+        for (int i = 0; i < 24; i++) {
+            x.add(0, 24 - i, 63, 24 - i, 1);
+        }
+        for (int k = 0; k < 24; k++) {
+            answers("the last one is the lowest", x.list(0, k), 23 - k);
+        }
+        x = empty();
+        for (int i = 0; i < 24; i++) {
+            x.add(0, i * 7 % 24, 63, i * 7 % 24, 1);
+        }
+        for (int k = 0; k < 24; k++) {
+            // 7 times 7 is 1 modulo 24
+            answers("without an order", x.list(0, k), k * 7 % 24);
+        }
     }
 
     private static void lists(String text, int[][] due) {
@@ -308,8 +323,8 @@ public final class MapBoundsTest {
     }
 
     private static void besides() {
-        Check.of("if in some LIST an EDGE has the one, and that next below it (0 below the lowest one) the other"
-                + " (unlike ones)");
+        Check.of("Two REGIONS are BESIDE one another, if in some LIST an EDGE has the one, and that next below it"
+                + " (0 below the lowest one) the other (unlike ones).");
         beside("e1,1,1,1,1", new int[10]);
         beside("e0,0,9,0,0", new int[10]);
         beside("e0,0,9,0,9", 1 << 9, 0, 0, 0, 0, 0, 0, 0, 0, 1);
@@ -486,7 +501,8 @@ public final class MapBoundsTest {
     }
 
     private static void way() {
-        Check.of("EDGES with which it has a point in common that is no end of the EDGE and no end of the WAY");
+        Check.of("WAY from a point to another one, straight: EDGES with which it has a point in common that is no end"
+                + " of the EDGE and no end of the WAY.");
         SlabMap x = full();
         answers("through all", x.way(5, 0, 5, 63, NONE), 24);
         answers("from the lowest to the highest", x.way(5, 1, 5, 24, NONE), 22);
@@ -574,6 +590,11 @@ public final class MapBoundsTest {
         }
         answers("none", empty().beside(9), 0);
         answers("no map", new SlabMap().beside(0), NONE);
+        x = Check.mapOf("e0,0,9,0,9");
+        answers("9", x.beside(0), 1 << 9);
+        x.tell(0, 8);
+        answers("8 instead", x.beside(0), 1 << 8);
+        answers("9 no longer", x.beside(9), 0);
     }
 
     private static void colours() {
@@ -620,7 +641,8 @@ public final class MapBoundsTest {
     }
 
     private static void ends() {
-        Check.of("two are alike, if their EDGES are by number: how many unlike ones there are in all LISTS");
+        Check.of("ENDS: each LIST from one of its EDGES on upwards; two are alike, if their EDGES are by number:"
+                + " how many unlike ones there are in all LISTS");
         answers("no edge", empty().ends(NONE), 0);
         answers("one", Check.mapOf("e0,0,63,0,1").ends(NONE), 1);
         answers("0; 0 1, 1; 0", Check.mapOf("e0,0,30,0,1;e10,5,20,5,2").ends(NONE), 3);
@@ -638,6 +660,21 @@ public final class MapBoundsTest {
         x.drop(0);
         answers("an act ago: all that are left", x.ends(1), 23);
         answers("26 acts ago there was none", x.ends(26), 0);
+        answers("now", x.ends(NONE), 23);
+        x.drop(23);
+        answers("one fewer", x.ends(NONE), 22);
+        x.undo();
+        answers("one more", x.ends(NONE), 23);
+        Check.of("how many of them there were AGO, too");
+        // lists 0 1 2 and 3 1 2; then 0 1 and 3 1; then 0 1 and 3 1 4
+        SlabMap y = Check.mapOf("e0,10,10,10,1;e0,20,20,20,2;e0,30,20,30,3;e10,5,20,5,4");
+        y.drop(2);
+        answers("1, 0 1, 3 1: none there was", y.ends(1), 0);
+        y.undo();
+        y.add(10, 40, 20, 40, 5);
+        answers("2, 1 2, 0 1 2; 4, 2 4, 1 2 4, 3 1 2 4: how many", y.ends(NONE), 7);
+        answers("three of them there were", y.ends(1), 3);
+        answers("all of them there are", y.ends(0), 7);
         for (int no : new int[] {27, 40, 41, -2, MIN, MAX}) {
             answers("ends(" + no + ")", x.ends(no), NONE);
         }
@@ -655,6 +692,11 @@ public final class MapBoundsTest {
         answers("as two acts ago", x.like(2, 0), 4096);
         x.add(0, 63, 1, 63, 9);
         answers("all but one point", x.like(1, 0), 4095);
+        x = Check.mapOf("e0,10,63,10,1;e0,20,63,20,2;e0,30,63,30,1");
+        x.move(0, 1);
+        answers("all but the rows 10, 20 and 30", x.like(1, 0), 63 * 61 + 64);
+        x.move(0, 9);
+        answers("the rows 0 to 9 of 0, 40 to 63 of 1", x.like(2, 0), 63 * (10 + 24) + 64);
         Check.of("SLABS with LISTS that there were, too (as rows of EDGES)");
         x = Check.mapOf("e0,0,10,0,1;e20,0,30,0,2;e0,5,30,5,3");
         answers("now: 0 2; 2; 1 2", x.like(0, 1), 3);
@@ -678,8 +720,12 @@ public final class MapBoundsTest {
         x.drop(0);
         x.add(0, 9, 10, 9, 1);
         answers("1 0 was 0 1", x.like(2, 1), 0);
+        x.add(0, 20, 10, 20, 1);
+        x.drop(0);
+        answers("1 2 was 1 0", x.like(2, 1), 0);
+        answers("1 2 was a part of 1 0 2", x.like(1, 1), 0);
         Check.of("LIKE AGO: POINTS (0), SLABS (1). NONE: no such ago, what.");
-        for (int no : new int[] {3, 40, 41, -1, MIN, MAX}) {
+        for (int no : new int[] {5, 40, 41, -1, MIN, MAX}) {
             answers("like(" + no + ", 0)", x.like(no, 0), NONE);
             answers("like(" + no + ", 1)", x.like(no, 1), NONE);
         }
@@ -727,6 +773,7 @@ public final class MapBoundsTest {
         answers("points of 9", x.would(20, 0, 30, 0, 9, 9), 10 * 64);
         answers("points of 0 as its region", x.would(0, 5, 10, 5, 0, 0), 4096 - 50);
         answers("the first of all: slabs", empty().would(0, 0, 63, 0, 1, -1), 1);
+        answers("the first of all: points", empty().would(0, 0, 63, 0, 9, 9), 63 * 64);
         x = full();
         x.drop(23);
         answers("the 24th: ends", x.would(0, 40, 63, 40, 2, -2), 24);

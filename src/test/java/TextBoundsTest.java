@@ -462,6 +462,14 @@ public final class TextBoundsTest {
         Check.same("none of them comes", x.fault(0), 479);
         Check.same("one more", x.feed(0, 0, 0, 'x', 0), 480);
         Check.same("the 480th", x.fault(0), 479);
+        for (int shift = 0; shift < 32; shift += 8) {
+            for (int sign : new int[] {1, 0x80, 0x81, 0xff}) {
+                Check.same("the 481st", x.feed(0, sign << shift, 0, 0, 0), NONE);
+                x.end(479);
+                Check.same("two of two numbers", x.feed(sign << shift, 0, 0, 0, sign << shift), NONE);
+                Check.same("the 480th", x.feed(0, 0, sign << shift, 0, 0), 480);
+            }
+        }
         x.end(460);
         Check.same("twenty more", x.feed(-1, -1, -1, -1, -1), 480);
         x.end(461);
@@ -520,8 +528,9 @@ public final class TextBoundsTest {
         x.image();
         Check.script(x, "d0;d1");
         Check.same("slabs of the first one", x.rule(1), 3);
+        Check.same("the list of the last", x.slab(2, 2), 2);
         Check.tape(x, "e1,0,6,0,4");
-        Check.same("how many edges", x.text(0), 1);
+        Check.same("text(0)", x.text(0), 1);
         Check.same("the tape is empty", x.count(2), 0);
         Check.same("edges", x.count(0), 1);
         Check.same("slabs", x.rule(1), 1);
@@ -539,6 +548,11 @@ public final class TextBoundsTest {
         for (int what = 0; what < 4; what++) {
             Check.same("status(" + what + ")", x.status(what), 1);
         }
+        Check.of("how many EDGES");
+        Check.tape(x, times("e5,0,5,0,0", 24));
+        Check.same("none of 24", x.text(0), 0);
+        Check.tape(x, "e0,0,9,0,0;e5,0,9,0,0;e0,1,9,1,0");
+        Check.same("two of three", x.text(0), 2);
     }
 
     private static void textOfScript() {
