@@ -588,6 +588,7 @@ public final class MapBoundsTest {
         for (int no : new int[] {10, -1, MIN, MAX}) {
             answers("beside(" + no + ")", x.beside(no), NONE);
         }
+        answers("in the most lists", nested().beside(0), 1 << 1 | 1 << 9);
         answers("none", empty().beside(9), 0);
         answers("no map", new SlabMap().beside(0), NONE);
         x = Check.mapOf("e0,0,9,0,9");
@@ -603,6 +604,7 @@ public final class MapBoundsTest {
         answers("two", Check.mapOf("e0,0,9,0,9").colours(NONE), 2);
         SlabMap x = Check.mapOf(TEN_BESIDE);
         answers("all beside one another", x.colours(NONE), 10);
+        answers("in the most lists: a ring of ten", nested().colours(NONE), 2);
         Check.of("of a REGION the first such (REGION by REGION, each the lowest)");
         for (int region = 0; region < 10; region++) {
             answers("ten beside one another: colours(" + region + ")", x.colours(region), region);
@@ -633,6 +635,7 @@ public final class MapBoundsTest {
         answers("the lowest and all but the next", x.idle(), (1 << 24) - 3);
         x.tell(23, 2);
         answers("the highest parts", x.idle(), (1 << 23) - 3);
+        answers("of the most lists: 0 over 0", nested().idle(), 1);
         answers("in one of two lists", Check.mapOf("e0,0,10,0,1;e0,5,20,5,1").idle(), 0);
         answers("in none of two lists", Check.mapOf("e0,0,20,0,1;e0,5,20,5,1;e5,9,6,9,0").idle(), 2);
         answers("no edge", empty().idle(), 0);
@@ -715,6 +718,14 @@ public final class MapBoundsTest {
         x.drop(0);
         answers("no slab", x.like(2, 1), 0);
         answers("no slab now", x.like(0, 1), 0);
+        x = Check.mapOf("e0,0,10,0,1;e10,0,20,0,2;e20,0,30,0,3");
+        x.drop(1);
+        answers("0; 2; none without an edge there was", x.like(1, 1), 2);
+        x.undo();
+        answers("all three", x.like(0, 1), 3);
+        x = nested();
+        x.tell(0, 9);
+        answers("the most", x.like(1, 1), 47);
         // none of these: the row is another, though it has the same edges, or as many
         x = Check.mapOf("e0,0,10,0,1;e0,5,10,5,2");
         x.drop(0);
@@ -864,6 +875,7 @@ public final class MapBoundsTest {
         answers("none", empty().all(2), 0);
         answers("one", Check.mapOf("e0,0,9,0,9").all(2), 1);
         answers("all of ten", Check.mapOf(TEN_BESIDE).all(2), 45);
+        answers("in the most lists: each and the next, 9 and 0", nested().all(2), 10);
         Check.of("HIDDEN: no MAP, no such what.");
         for (int no : new int[] {6, -1, MIN, MAX}) {
             answers("all(" + no + ")", empty().all(no), HIDDEN);
