@@ -537,6 +537,11 @@ public final class MapBoundsTest {
             answers("to y " + no, x.way(5, 0, 5, no, NONE), NONE);
         }
         answers("the farthest", x.way(0, 0, 63, 63, NONE), 24);
+        x.drop(0);
+        x.drop(23);
+        answers("those that are not gone", x.way(5, 0, 5, 63, NONE), 22);
+        answers("the first of them", x.way(5, 0, 5, 63, 0), 1);
+        answers("along one that is gone", x.way(0, 24, 63, 24, NONE), 0);
         answers("no edge", empty().way(0, 0, 63, 63, NONE), 0);
         answers("no map", new SlabMap().way(0, 0, 63, 63, NONE), NONE);
     }
@@ -826,6 +831,8 @@ public final class MapBoundsTest {
         answers("none", x.blocks(5, 0, 6, 9), NONE);
         answers("it ends on one", x.blocks(5, 0, 6, 10), NONE);
         answers("there are 24, but none in its way", full().blocks(0, 40, 63, 40), NONE);
+        x.drop(1);
+        answers("the one in its way is gone", x.blocks(5, 0, 6, 19), NONE);
         for (int no : NO_PLACE) {
             answers("x " + no, x.blocks(no, 0, 6, 63), NONE);
             answers("y " + no, x.blocks(5, no, 6, 63), NONE);
@@ -926,5 +933,9 @@ public final class MapBoundsTest {
         answers("one above the other", Check.mapOf("e0,0,10,10,1;e10,9,20,0,1").all(5), 4);
         answers("48", full().all(5), 48);
         answers("48", nested().all(5), 48);
+        SlabMap x = full();
+        x.drop(23);
+        x.drop(0);
+        answers("of edges that are gone none", x.all(5), 44);
     }
 }

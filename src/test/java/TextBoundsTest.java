@@ -316,6 +316,18 @@ public final class TextBoundsTest {
         fault(MAP, "d1", 0);
         fault(SCRIPT, EDGE, 0);
         fault(MAP, "ex;n1,", 1);
+        // the first of several, though what comes behind it is told otherwise
+        fault(MAP, "e1 64", 3);
+        fault(MAP, "e1 640", 3);
+        fault(MAP, "e1,2,3,4,10;e64;n1abcde", 10);
+        fault(MAP, "n1;n1a;n1b", 2);
+        fault(SCRIPT, "m- 64,0", 2);
+        fault(SCRIPT, "m--64,0", 2);
+        fault(SCRIPT, "r1;24", 2);
+        fault(SCRIPT, "d24;" + times("d1", 12), 2);
+        fault(SCRIPT, "d;" + times("d1", 12), 1);
+        fault(SCRIPT, "d24;" + times("d", 12), 2);
+        fault(SCRIPT, times("d", 13), 1);
     }
 
     private static void outOfBounds() {
